@@ -718,10 +718,17 @@ public final class SpillPlanner {
         }
 
         int mentionedIn(int block) {
+            return countedIn(block, uses) | definedIn(block);
+        }
+
+        int definedIn(int block) {
+            return countedIn(block, definitions);
+        }
+
+        private static int countedIn(int block, int[] counts) {
             int set = 0;
             for (int v = 0; v < VARIABLES; v++) {
-                int at = block * VARIABLES + v;
-                if (uses[at] + definitions[at] > 0) {
+                if (counts[block * VARIABLES + v] > 0) {
                     set |= 1 << v;
                 }
             }
@@ -846,6 +853,8 @@ public final class SpillPlanner {
         final int[] colours = new int[VARIABLES];
         final int[] slots = new int[VARIABLES];
         final int[] loopColours = new int[MOST_BLOCKS * VARIABLES];
+        final int[] presentIn = new int[MOST_BLOCKS];
+        final int[] definedIn = new int[MOST_BLOCKS];
         int registers;
         int promotions;
         int gains;
@@ -868,6 +877,7 @@ public final class SpillPlanner {
                 colourGreedily(variablesAt(IN_REGISTER), facts.rivals, colours);
             }
             colourGreedily(variablesAt(IN_MEMORY), facts.rivals, slots);
+            surveyLoops();
             promoteAll();
         }
 
@@ -942,6 +952,19 @@ public final class SpillPlanner {
             return sum;
         }
 
+        private void surveyLoops() {
+            for (int loop = 0; loop < loopFinder.count; loop++) {
+                presentIn[loop] = 0;
+                definedIn[loop] = 0;
+                for (int b = 0; b < program.size; b++) {
+                    if (loopFinder.contains(loop, b)) {
+                        presentIn[loop] |= facts.liveAtBeginning(b) | facts.mentionedIn(b);
+                        definedIn[loop] |= facts.definedIn(b);
+                    }
+                }
+            }
+        }
+
         private void promoteAll() {
             Arrays.fill(loopColours, NONE);
             promotions = 0;
@@ -986,7 +1009,7 @@ public final class SpillPlanner {
 
         private int gainOf(int variable, int loop) {
             int weight = 0;
-            boolean isDefined = isDefinedIn(variable, loop);
+            boolean isDefined = has(definedIn[loop], variable);
             for (int b = 0; b < program.size; b++) {
                 if (!loopFinder.contains(loop, b)) {
                     weight -= loadsOnEdge(b, variable, loop) ? program.blocks[b].frequency : 0;
@@ -1016,16 +1039,6 @@ public final class SpillPlanner {
             return false;
         }
 
-        boolean isDefinedIn(int variable, int loop) {
-            int count = 0;
-            for (int b = 0; b < program.size; b++) {
-                if (loopFinder.contains(loop, b)) {
-                    count += facts.definitions[b * VARIABLES + variable];
-                }
-            }
-            return count > 0;
-        }
-
         private boolean isPromotedAround(int variable, int loop) {
             for (int other = 0; other < loopFinder.count; other++) {
                 if (loopColours[other * VARIABLES + variable] != NONE
@@ -1037,24 +1050,13 @@ public final class SpillPlanner {
         }
 
         private int coloursTakenIn(int loop) {
-            int present = presentIn(loop);
             int taken = 0;
             for (int v = 0; v < VARIABLES; v++) {
-                if (has(present, v)) {
+                if (has(presentIn[loop], v)) {
                     taken |= coloursOf(v, loopFinder.members[loop]);
                 }
             }
             return taken;
-        }
-
-        private int presentIn(int loop) {
-            int set = 0;
-            for (int b = 0; b < program.size; b++) {
-                if (loopFinder.contains(loop, b)) {
-                    set |= facts.liveAtBeginning(b) | facts.mentionedIn(b);
-                }
-            }
-            return set;
         }
 
         /** The colours that a variable has in some of these blocks. */
@@ -1241,10 +1243,10 @@ public final class SpillPlanner {
         }
 
         private void storePromoted(int loop, int to) {
-            int needed = plan.facts.liveAtBeginning(to);
+            int needed = plan.facts.liveAtBeginning(to) & plan.definedIn[loop];
             for (int v = 0; v < VARIABLES; v++) {
                 int colour = plan.loopColours[loop * VARIABLES + v];
-                if (colour != NONE && has(needed, v) && plan.isDefinedIn(v, loop)) {
+                if (colour != NONE && has(needed, v)) {
                     memory[plan.slots[v]] = registers[colour];
                     stores++;
                 }

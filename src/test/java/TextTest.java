@@ -98,6 +98,7 @@ public final class TextTest {
         fault(x, "ab", 1);
         fault(x, "a=", 2);
         fault(x, "a=m", 2);
+        fault(x, "a=;stop a", 2);
         fault(x, "a= 1", 2);
         fault(x, "a=+1", 2);
         fault(x, "a=-", 3);
