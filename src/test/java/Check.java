@@ -6,15 +6,35 @@ final class Check {
 
     private static int made = 0;
     private static int wrong = 0;
+    private static int sentences = 0;
+    private static int madeBefore = 0;
+    private static String sentence = "";
 
     private Check() {
+    }
+
+    /** From here on the answers show whether this sentence of the document holds. */
+    static void sentence(String words) {
+        endSentence();
+        sentence = words;
+        sentences++;
+        madeBefore = made;
+    }
+
+    /** A sentence under which nothing was asked has no test. */
+    private static void endSentence() {
+        if (!sentence.isEmpty() && made == madeBefore) {
+            due("the number of answers", "0", "at least 1");
+        }
+        sentence = "";
     }
 
     static void due(String what, String got, String want) {
         made++;
         if (!got.equals(want)) {
             wrong++;
-            System.out.println(what + " answered " + got + ", due is " + want);
+            String under = sentence.isEmpty() ? "" : "[" + sentence + "] ";
+            System.out.println(under + what + " answered " + got + ", due is " + want);
         }
     }
 
@@ -49,7 +69,9 @@ final class Check {
     }
 
     static void end(String name) {
-        System.out.println(name + ": " + made + " answers, " + wrong + " of them wrong");
+        endSentence();
+        String of = sentences > 0 ? " to " + sentences + " sentences" : "";
+        System.out.println(name + ": " + made + " answers" + of + ", " + wrong + " of them wrong");
         if (wrong > 0 || made == 0) {
             System.exit(1);
         }

@@ -42,4 +42,48 @@ final class Samples {
         x.setInitial(2, 3);
         return x;
     }
+
+    /**
+     * An object in which every part of the state can be told from another one: three blocks, one
+     * loop, a plan with a promotion, counts, a text that lacks its last letter, and a snapshot of
+     * another program.
+     */
+    static SpillPlanner rich() {
+        SpillPlanner x = Texts.program("b=2;stop b", "go 0");
+        x.setFrequency(1, 7);
+        x.setInitial(3, 33);
+        x.saveSnapshot();
+        Texts.write(x, "f=1;go 1", "a=a-f;if a 1 2", "b=7;c=9;d=b*c;e=d+a;stop e");
+        Texts.setFrequencies(x, 1, 5, 100);
+        x.setInitial(0, 3);
+        x.setInitial(11, -11);
+        x.plan(2, false);
+        x.runPlanned(100);
+        Texts.feed(x, "c=4;stop ");
+        return x;
+    }
+
+    static SpillPlanner richWithoutPlan() {
+        SpillPlanner x = rich();
+        x.setFrequency(0, 1);
+        return x;
+    }
+
+    /** Eight blocks of eight instructions, and 80 characters; no snapshot. */
+    static SpillPlanner full() {
+        SpillPlanner x = new SpillPlanner();
+        x.clear(8);
+        for (int b = 0; b < 8; b++) {
+            for (int i = 0; i < 8; i++) {
+                x.append(b, (b + i) % 5, (b + i) % 12, b + 1, i);
+            }
+            x.setEnd(b, b == 7 ? 2 : 0, b, b + 1, 0);
+            x.setFrequency(b, 9999 - b);
+        }
+        x.setInitial(11, 7);
+        x.plan(1, true);
+        x.runPlanned(1000);
+        Texts.feed(x, "c=4;stop d" + "x".repeat(70));
+        return x;
+    }
 }

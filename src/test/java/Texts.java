@@ -19,6 +19,12 @@ final class Texts {
     /** A new object with one block for each text. */
     static SpillPlanner program(String... blocks) {
         SpillPlanner x = new SpillPlanner();
+        write(x, blocks);
+        return x;
+    }
+
+    /** Begins a new program with one block for each text. */
+    static void write(SpillPlanner x, String... blocks) {
         x.clear(blocks.length);
         for (int b = 0; b < blocks.length; b++) {
             int answer = read(x, b, blocks[b]);
@@ -26,6 +32,11 @@ final class Texts {
                 throw new IllegalArgumentException(blocks[b] + " is at fault: " + answer);
             }
         }
-        return x;
+    }
+
+    static void setFrequencies(SpillPlanner x, int... frequencies) {
+        for (int b = 0; b < frequencies.length; b++) {
+            x.setFrequency(b, frequencies[b]);
+        }
     }
 }
