@@ -1076,7 +1076,7 @@ public final class SpillPlanner {
             int register = colours[variable];
             for (int loop = 0; loop < loopFinder.count; loop++) {
                 int colour = loopColours[loop * VARIABLES + variable];
-                if (colour != NONE && loopFinder.contains(loop, block)) {
+                if (colour != NONE && has(loopFinder.members[loop], block)) {
                     register = colour;
                 }
             }

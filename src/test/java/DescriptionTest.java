@@ -21,6 +21,8 @@ public final class DescriptionTest {
         conflictsAtTheBeginning();
         memoryCosts();
         recomputingCosts();
+        programAsItIsNow();
+        eightBlocks();
         Check.end("DescriptionTest");
     }
 
@@ -299,5 +301,28 @@ public final class DescriptionTest {
         Script.due(x, "cost(0, true) = 1130");
         Check.sentence("15: the cost of keeping in memory can be asked of each variable");
         Script.due(x, "cost(0, false) = " + 3 * (9999 + 1130) + "; cost(11, false) = 0");
+    }
+
+    private static void programAsItIsNow() {
+        Check.sentence("10 to 15: the answers are those of the program as it is, not as it was");
+        SpillPlanner x = Texts.program("if a 0 0");
+        Script.due(x, "live(0, 0) = 1; setEnd(0, 0, 0, 0, 0) = 1; live(0, 0) = 0; pressure() = 0;"
+            + " cost(0, false) = 0; loops() = 1; clear(1) = 1; loops() = 0; live(0, 0) = 1");
+        SpillPlanner y = Texts.program("c=a*b;stop c");
+        Script.due(y, "conflicts(0) = 2; clear(1) = 1; conflicts(0) = 0; conflicts(1) = 0");
+        SpillPlanner z = Texts.program("a=5;stop a");
+        Script.due(z, "cost(0, true) = 1; removeLast(0) = 0; cost(0, true) = " + UNSUPPORTED
+            + "; append(0, 1, 0, 1, 0) = 1; cost(0, true) = " + UNSUPPORTED
+            + "; removeLast(0) = 1; append(0, 0, 0, 6, 0) = 1; cost(0, true) = 1");
+    }
+
+    private static void eightBlocks() {
+        Check.sentence("10 to 15: all eight blocks count");
+        SpillPlanner x = Texts.program("go 1", "go 2", "go 3", "go 4", "go 5", "go 6", "go 7",
+            "a=1;b=2;c=a*b;if c 0 7");
+        x.setFrequency(7, 9999);
+        Script.due(x, "pressure() = 2; live(7, 2) = 3; live(6, 0) = 0; conflicts(0) = 2; loops() = 2;"
+            + " loop(0, 1) = 255; loop(1, 1) = 128; loop(1, 2) = 1; cost(0, true) = 9999;"
+            + " cost(0, false) = " + 2 * 3 * 9999 + "; cost(2, false) = " + 2 * 3 * 9999);
     }
 }

@@ -21,6 +21,7 @@ public final class MachineEdgesTest {
         entryOfTheProgram();
         entryIntoALoop();
         countsOfTheLatest();
+        eightNestedLoops();
         Check.end("MachineEdgesTest");
     }
 
@@ -229,5 +230,15 @@ public final class MachineEdgesTest {
         for (int i = 0; i < 3; i++) {
             Script.due(y, "runPlanned(4) = 35; executed(0) = 4; executed(3) = 1; visits(0) = 1");
         }
+    }
+
+    /** Block 7 is left for block 6, and so on to block 0, where the last round is without end. */
+    private static void eightNestedLoops() {
+        Check.sentence("Planned execution: out of the innermost of 8 loops and through all of them");
+        SpillPlanner x = Texts.program("go 1", "if a 2 0", "if a 3 1", "if a 4 2", "if a 5 3", "if a 6 4",
+            "if a 7 5", "a=a+a;if a 7 6");
+        x.setInitial(0, HALF);
+        Script.due(x, "loops() = 8; plan(1, false) = 0; runPlanned(1000) = throws ArithmeticException;"
+            + " run(1000) = throws ArithmeticException; executed(0) = 0; clear(8) = 8; run(1) = 0");
     }
 }

@@ -18,12 +18,18 @@ public final class PlanEdgesTest {
         gain();
         gainOfLoads();
         gainOfStores();
+        gainOfStoresTowardsBlock0();
         gainAtTheEntry();
         leastGain();
         orderOfLoops();
+        eachLoopHasItsTurn();
         orderOfVariables();
         presentVariables();
         loopsWithBlocksInCommon();
+        loopsAroundEachOther();
+        coloursOfTwoLoops();
+        planOfTheProgramAsItIs();
+        eightLoops();
         Check.end("PlanEdgesTest");
     }
 
@@ -102,6 +108,9 @@ public final class PlanEdgesTest {
             + " home(0, 0) = 2; home(1, 0) = 1; planned(4) = 13");
         Check.sentence("Plan: .. kept in memory where it cannot be recomputed");
         Script.due(Texts.program(ALL_LIVE), "plan(1, true) = 11; planned(2) = 0");
+        Check.sentence("19: the costs of all recomputed variables are summed");
+        Script.due(Texts.program("a=-999;b=999;c=a*b;c=c+a;c=c+b;stop c"), "plan(1, true) = 0; planned(2) = 2;"
+            + " cost(0, true) = 2; cost(1, true) = 2; planned(4) = 4");
         Check.sentence("Plan: a variable that fits stays in a register though it could be recomputed");
         Script.due(Texts.program("a=5;stop a"), "plan(1, true) = 0; home(0, 0) = 0; planned(2) = 0");
     }
@@ -193,6 +202,15 @@ public final class PlanEdgesTest {
         return x;
     }
 
+    /** Block 1 is the loop, and leaves for block 0, which is busy. */
+    private static void gainOfStoresTowardsBlock0() {
+        Check.sentence("Promotion: .. also if that block is block 0");
+        SpillPlanner x = Texts.program("b=7;b=b*b;b=b+a;go 2", "a=a+a;if a 1 0", "go 1");
+        Texts.setFrequencies(x, 100, 20, 1);
+        Script.due(x, "loops() = 2; cost(0, false) = 780; plan(1, false) = 1; home(0, 0) = 1;"
+            + " promoted(0, 1) = 0; planned(3) = 1; planned(4) = " + (780 - (180 - 3 - 60)));
+    }
+
     private static void gainAtTheEntry() {
         Check.sentence("Promotion: the entry of the program does not count for the gain");
         SpillPlanner x = Texts.program("a=a+a;if a 0 1", DEAR);
@@ -235,6 +253,22 @@ public final class PlanEdgesTest {
         Script.due(innerFirst, "plan(3, false) = 1; promoted(0, 0) = " + ELEMENT + "; promoted(0, 1) = 2");
     }
 
+    private static void eachLoopHasItsTurn() {
+        Check.sentence("Promotion: for each loop");
+        SpillPlanner three = Texts.program("go 1", "a=a+a;if a 1 2", "a=a+a;if a 2 3", "a=a+a;if a 3 4", DEAR);
+        Texts.setFrequencies(three, 1, 5, 6, 7, 100);
+        Script.due(three, "plan(1, false) = 1; promoted(0, 0) = 0; promoted(0, 1) = 0; promoted(0, 2) = 0;"
+            + " planned(3) = 3; planned(4) = " + (3 * (1 + 15 + 18 + 21 + 100) - 27 - 21 - 24));
+        Check.sentence("Promotion: .. also where the frequencies of the headers are 1");
+        SpillPlanner rare = Texts.program("go 1", "go 2", "a=a+a;if a 1 3", "go 4", "a=a+a;if a 3 5", DEAR);
+        Texts.setFrequencies(rare, 1, 1, 5, 1, 5, 100);
+        Script.due(rare, "plan(1, false) = 1; promoted(0, 0) = 0; promoted(0, 1) = 0; planned(3) = 2;"
+            + " planned(4) = " + (3 * (1 + 15 + 15 + 100) - 27 - 15));
+        Check.sentence("Promotion: .. and where they are 9999");
+        Texts.setFrequencies(rare, 1, 9999, 5, 9999, 5, 100);
+        Script.due(rare, "plan(1, false) = 1; promoted(0, 0) = 0; promoted(0, 1) = 0; planned(3) = 2");
+    }
+
     /** a and j go out, h is live through the loop, and b is only behind it. */
     private static void orderOfVariables() {
         Check.sentence("Promotion: variables in ascending order, not by their gains");
@@ -253,11 +287,16 @@ public final class PlanEdgesTest {
         Check.sentence("Promotion: present is what is defined in the loop, though live at no beginning");
         Script.due(looped("go 1", "d=5;a=a+a;if a 1 2", DEAR), "plan(1, false) = 1; home(0, 0) = 1;"
             + " home(3, 1) = 0; promoted(0, 0) = " + ELEMENT);
+        Script.due(Texts.program("go 1", "d=5;go 2", "a=a+a;if a 1 3", DEAR), "setFrequency(1, 5) = 1;"
+            + " setFrequency(2, 5) = 1; setFrequency(3, 100) = 1; plan(1, false) = 1; home(0, 0) = 1;"
+            + " home(3, 1) = 0; promoted(0, 0) = " + ELEMENT);
         Check.sentence("Promotion: present is what is live at the beginning of a block of the loop");
         Script.due(looped("go 1", "a=a+a;if a 1 2", "b=7;b=b*h;b=b*h;b=b+a;stop b"), "plan(2, false) = 1;"
             + " home(0, 0) = 1; home(1, 1) = 0; home(7, 1) = 1; promoted(0, 0) = 0");
         Check.sentence("Promotion: what is not present leaves its colour free");
         Script.due(looped("go 1", "a=a+a;if a 1 2", DEAR), "plan(1, false) = 1; home(1, 1) = 0; promoted(0, 0) = 0");
+        Script.due(looped("go 1", "b=b+b;if b 1 2", "a=7;a=a*a;a=a+b;stop a"), "plan(1, false) = 1;"
+            + " home(0, 1) = 0; home(1, 0) = 1; promoted(1, 0) = 0");
     }
 
     private static void loopsWithBlocksInCommon() {
@@ -274,5 +313,67 @@ public final class PlanEdgesTest {
         Texts.setFrequencies(same, 1, 5, 5, 100);
         Script.due(same, "cost(0, false) = 393; plan(1, false) = 1; promoted(0, 0) = 0; promoted(0, 1) = 0;"
             + " planned(3) = 2; planned(4) = " + (393 - 27 - 15));
+    }
+
+    /** As in the order of loops, but with a second colour to spare. */
+    private static void loopsAroundEachOther() {
+        String last = "b=7;c=9;d=8;h=6;h=h*d;h=h*c;h=h*b;h=h+a;stop h";
+        Check.sentence("Promotion: not if it is promoted in one that this one is within");
+        SpillPlanner x = Texts.program("f=1;go 1", "go 2", "a=a-f;if a 2 3", "if g 1 4", last);
+        Texts.setFrequencies(x, 1, 6, 5, 1, 100);
+        Script.due(x, "plan(4, false) = 1; promoted(0, 0) = 2; promoted(0, 1) = " + ELEMENT + "; planned(3) = 1");
+        Check.sentence("Promotion: not if it is promoted in a loop within this one");
+        Texts.setFrequencies(x, 1, 5, 6, 1, 100);
+        Script.due(x, "plan(4, false) = 1; promoted(0, 0) = " + ELEMENT + "; promoted(0, 1) = 2; planned(3) = 1");
+        SpillPlanner y = Texts.program("f=1;go 2", "a=a-f;if a 1 3", "go 1", "if g 2 4", last);
+        Texts.setFrequencies(y, 1, 5, 5, 1, 100);
+        Script.due(y, "plan(4, false) = 1; promoted(0, 0) = 2; promoted(0, 1) = " + ELEMENT + "; planned(3) = 1");
+    }
+
+    /** In loop 1, where d is defined, a gets 1, in loop 2 it gets 0; j in loop 0 meets both. */
+    private static void coloursOfTwoLoops() {
+        Check.sentence("Promotion: a colour that no variable has in any loop with a block in common");
+        SpillPlanner x = Texts.program("go 1", "j=j+j;go 2", "d=5;a=a+a;if a 2 3", "a=a+a;if a 3 4", "if j 1 5",
+            "b=7;c=9;h=6;h=h*c;h=h*b;h=h+a;h=h+j;stop h");
+        Texts.setFrequencies(x, 1, 5, 10, 10, 1, 100);
+        x.setInitial(0, 1 << 30);
+        x.setInitial(9, 1 << 31);
+        Script.due(x, "cost(0, false) = 483; cost(9, false) = 336; plan(3, false) = 2; home(3, 1) = 0;"
+            + " promoted(0, 1) = 1; promoted(0, 2) = 0; promoted(9, 0) = 2; planned(3) = 3; planned(4) = "
+            + (483 + 336 - 45 - 30 - 27));
+        Script.due(x, "runPlanned(40) = 378; executed(1) = 5; executed(2) = 3; run(40) = 378");
+    }
+
+    private static void planOfTheProgramAsItIs() {
+        Check.sentence("16: the plan is one for the program as it is, not as it was");
+        SpillPlanner present = looped("go 1", "d=5;a=a+a;if a 1 2", DEAR);
+        Script.due(present, "plan(1, false) = 1; promoted(0, 0) = " + ELEMENT);
+        Texts.read(present, 1, "a=a+a;if a 1 2");
+        Texts.read(present, 2, "d=5;" + DEAR);
+        Script.due(present, "plan(1, false) = 1; home(3, 1) = 0; promoted(0, 0) = 0");
+        SpillPlanner defined = looped("go 1", "a=a+a;if a 1 2", DEAR);
+        Script.due(defined, "plan(1, false) = 1; promoted(0, 0) = 0");
+        Texts.read(defined, 1, "if a 1 2");
+        Script.due(defined, "plan(1, false) = 1; promoted(0, 0) = 0; planned(4) = " + (318 - 12));
+    }
+
+    /**
+     * Each block is a loop; in block 0 the register is b's, in each other one it is free for a. A
+     * loop gains 3 times (2 of its own frequency minus that of the block before it).
+     */
+    private static void eightLoops() {
+        Check.sentence("Promotion: for each loop, of which there are at most 8");
+        SpillPlanner x = Texts.program("b=7;b=b*b;b=b*b;b=b*b;b=b+a;if a 0 1", "a=a+a;if a 1 2",
+            "a=a+a;if a 2 3", "a=a+a;if a 3 4", "a=a+a;if a 4 5", "a=a+a;if a 5 6", "a=a+a;if a 6 7",
+            "a=a+a;go 7");
+        Texts.setFrequencies(x, 1000, 501, 251, 126, 64, 33, 17, 9);
+        Script.due(x, "loops() = 8; plan(1, false) = 1; home(0, 0) = 1; promoted(0, 0) = " + ELEMENT
+            + "; promoted(0, 8) = throws IndexOutOfBoundsException; planned(3) = 7;"
+            + " runPlanned(1000) = throws ArithmeticException");
+        for (int loop = 1; loop < 8; loop++) {
+            Script.due(x, "promoted(0, " + loop + ") = 0");
+        }
+        int cost = 3 * (3 * 1000 + 3 * (501 + 251 + 126 + 64 + 33 + 17) + 2 * 9);
+        Script.due(x, "cost(0, false) = " + cost + "; planned(4) = " + (cost - 3 * (2 + 1 + 1 + 2 + 2 + 1 + 1)));
     }
 }

@@ -54,13 +54,15 @@ final class State {
     }
 
     private void seeProgram() {
-        for (int b = 0; b < blocks(); b++) {
+        int blocks = blocks();
+        for (int b = 0; b < blocks; b++) {
             int block = b;
             for (int w = 0; w < 6; w++) {
                 int what = w;
                 see(() -> x.block(block, what));
             }
-            for (int j = 0; j < 4 * x.block(block, 0); j++) {
+            int parts = 4 * x.block(block, 0);
+            for (int j = 0; j < parts; j++) {
                 int at = j;
                 see(() -> x.instruction(block, at / 4, at % 4));
             }
@@ -82,8 +84,10 @@ final class State {
     }
 
     private void seeAnalysis() {
-        for (int b = 0; b < blocks(); b++) {
-            for (int j = 0; j <= x.block(b, 0); j++) {
+        int blocks = blocks();
+        for (int b = 0; b < blocks; b++) {
+            int end = x.block(b, 0);
+            for (int j = 0; j <= end; j++) {
                 int block = b;
                 int i = j;
                 see(() -> x.live(block, i));
@@ -96,13 +100,15 @@ final class State {
             see(() -> x.cost(variable, true));
         }
         see(x::pressure);
-        for (int j = 0; j < 3 * x.loops(); j++) {
+        int parts = 3 * x.loops();
+        for (int j = 0; j < parts; j++) {
             int at = j;
             see(() -> x.loop(at / 3, at % 3));
         }
     }
 
     private void seePlan() {
+        int loops = x.loops();
         for (int w = 0; w < 5; w++) {
             int what = w;
             see(() -> x.planned(what));
@@ -113,7 +119,7 @@ final class State {
                 int what = w;
                 see(() -> x.home(variable, what));
             }
-            for (int j = 0; j < x.loops(); j++) {
+            for (int j = 0; j < loops; j++) {
                 int loop = j;
                 see(() -> x.promoted(variable, loop));
             }
@@ -126,7 +132,8 @@ final class State {
             int what = w;
             see(() -> x.executed(what));
         }
-        for (int b = 0; b < blocks(); b++) {
+        int blocks = blocks();
+        for (int b = 0; b < blocks; b++) {
             int block = b;
             see(() -> x.visits(block));
         }
