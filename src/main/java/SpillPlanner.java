@@ -902,7 +902,7 @@ public final class SpillPlanner {
                     }
                 }
             }
-            places[cheapest] = isBetterRecomputed(cheapest) ? RECOMPUTED : IN_MEMORY;
+            places[cheapest] = wouldBeRecomputed(cheapest) ? RECOMPUTED : IN_MEMORY;
         }
 
         private int firstOverRegisters() {
@@ -913,12 +913,12 @@ public final class SpillPlanner {
             return v;
         }
 
-        private boolean isBetterRecomputed(int variable) {
+        private boolean wouldBeRecomputed(int variable) {
             return mayRecompute && facts.canRecompute(variable);
         }
 
         private int outsideCost(int variable) {
-            return isBetterRecomputed(variable)
+            return wouldBeRecomputed(variable)
                     ? facts.recomputingCost(variable) : facts.memoryCost(variable);
         }
 
